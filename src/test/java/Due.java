@@ -19,6 +19,13 @@ final class Due {
         }
     }
 
+    static void same(String what, String got, String want) {
+        if (!got.equals(want)) {
+            wrong++;
+            System.out.println(what + " is now [" + got + "], due is [" + want + "]");
+        }
+    }
+
     static int wrong() {
         return wrong;
     }

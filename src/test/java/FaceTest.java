@@ -18,9 +18,11 @@ public final class FaceTest {
                 Modifier.isPublic(face.getModifiers()) && Modifier.isFinal(face.getModifiers()));
         methods(face);
         fields(face);
+        classesInside(face);
         Constructor<?>[] constructors = face.getDeclaredConstructors();
         Due.is("constructors", constructors.length, 1);
         Due.is("the constructor's parameters", constructors[0].getParameterCount(), 0);
+        Due.holds("the constructor is public", Modifier.isPublic(constructors[0].getModifiers()));
         Due.is("NONE", ReaderYard.NONE, -1);
         Due.is("BAD", ReaderYard.BAD, -2);
         Due.is("FULL", ReaderYard.FULL, -3);
@@ -31,6 +33,8 @@ public final class FaceTest {
         Set<String> seen = new TreeSet<>();
         for (Method method : face.getDeclaredMethods()) {
             if (!Modifier.isPrivate(method.getModifiers())) {
+                Due.holds(method + " is public", Modifier.isPublic(method.getModifiers()));
+                Due.holds(method + " is of an object", !Modifier.isStatic(method.getModifiers()));
                 seen.add(described(method));
             }
         }
@@ -54,5 +58,13 @@ public final class FaceTest {
             }
         }
         Due.holds("the constants are the document's: " + seen, seen.equals(Set.of("NONE", "BAD", "FULL")));
+    }
+
+    private static void classesInside(Class<?> face) {
+        for (Class<?> inside : face.getDeclaredClasses()) {
+            int modifiers = inside.getModifiers();
+            Due.holds(inside + " is static", Modifier.isStatic(modifiers));
+            Due.holds(inside + " is hidden", !Modifier.isPublic(modifiers) && !Modifier.isProtected(modifiers));
+        }
     }
 }

@@ -81,7 +81,7 @@ public final class FaultsTest {
 
     private static void spent() {
         ReaderYard y = Yards.of("a".repeat(200));
-        int last = spender(y, 3000);
+        int last = Yards.spender(y, 3000);
         Due.is("3000 steps", y.read(last, 0), 0);
         Due.is("3000 steps are counted", y.count(4), 3000);
         int numbers = y.count(2);
@@ -100,40 +100,12 @@ public final class FaultsTest {
         ReaderYard y = Yards.of("a".repeat(200));
         int self = y.reader(Yards.NAME, 0, 0);
         y.name(0, self);
-        int spends2850 = spender(y, 2850);
+        int spends2850 = Yards.spender(y, 2850);
         Due.is("2850 steps", y.read(spends2850, 0) + y.count(4), 2850);
         Due.is("DEEP ahead of SPENT", y.read(y.reader(Yards.THEN, spends2850, self), 0), -14);
         Due.is("both were due", y.count(4) + y.count(5), 3150);
         int spends2851 = y.reader(Yards.MAYBE, spends2850, 0);
         Due.is("SPENT one ahead of DEEP", y.read(y.reader(Yards.THEN, spends2851, self), 0), -15);
         Due.is("149 deep then", y.count(5), 149);
-    }
-
-    /**
-     * A reader that makes so many steps from place 0 of a text of 200 signs, and comes to place 0;
-     * the last of them lays a number.
-     */
-    private static int spender(ReaderYard y, int steps) {
-        int[] readers = new int[12];
-        int[] cost = new int[12];
-        readers[0] = y.reader(Yards.LAY, 1, 0);
-        cost[0] = 1;
-        readers[8] = y.reader(Yards.AHEAD, y.reader(Yards.MANY, 0, 0), 0);
-        cost[8] = 203;
-        for (int i = 1; i < 12; i++) {
-            if (i != 8) {
-                readers[i] = y.reader(Yards.THEN, readers[i - 1], readers[i - 1]);
-                cost[i] = 2 * cost[i - 1] + 1;
-            }
-        }
-        int whole = readers[0];
-        int made = 1;
-        for (int i = 11; i >= 0; i--) {
-            while (made + cost[i] + 1 <= steps) {
-                whole = y.reader(Yards.THEN, readers[i], whole);
-                made += cost[i] + 1;
-            }
-        }
-        return made < steps ? y.reader(Yards.MAYBE, whole, 0) : whole;
     }
 }
