@@ -1,13 +1,14 @@
 import java.util.Random;
 
 /**
- * Long runs of calls, the same each time, on a yard and on the model beside it. A run makes more
- * calls than the 512 that the document promises answers for, since it looks at all of the state
- * behind each read; ReaderYard does not count its calls, so that is no hindrance.
+ * Runs of 512 calls, the same each time, on a yard and on the model beside it. What later calls
+ * answer is free, so a run stops there; and since all of the state is more than the calls left can
+ * ask for, a few questions follow most reads and many follow some.
  */
 public final class ModelTest {
-    private static final int RUNS = 1500;
+    private static final int RUNS = 6000;
     private static final int CALLS = 512;
+    private static final int FEW_QUESTIONS = 5, MANY_QUESTIONS = 80;
     private static final int[] EXTREMES = {-1, -2, 50, 200, 201, Integer.MIN_VALUE, Integer.MAX_VALUE};
     /** Sorts that join others and that lay come more often, so that more than failing is seen. */
     private static final int[] SORTS = {0, 1, 1, 2, 3, 4, 4, 4, 4, 4, 4, 5, 5, 5, 6, 6, 7, 7, 8, 9, 10, 10,
@@ -18,6 +19,7 @@ public final class ModelTest {
     private final int run;
     private final ReaderYard yard = new ReaderYard();
     private final Model model = new Model();
+    private int calls;
     private static final int[] ANSWERS = new int[20];
 
     private ModelTest(int run) {
@@ -41,9 +43,12 @@ public final class ModelTest {
         if (run % 2 == 0) {
             stock();
         }
-        for (int call = 0; call < CALLS && Due.wrong() < 20; call++) {
+        if (run % 5 == 0) {
+            pileUp();
+        }
+        for (int deed = 0; calls < CALLS && Due.wrong() < 20; deed++) {
             int kind = random.nextInt(100);
-            if (call < 60 ? kind < 70 : kind < 5) {
+            if (deed < 60 ? kind < 70 : kind < 5) {
                 make();
             } else if (kind < 80) {
                 read();
@@ -55,7 +60,9 @@ public final class ModelTest {
         }
     }
 
+    /** Each call of the yard comes by here once, so the calls are counted here. */
     private void say(String call, long got, long want) {
+        calls++;
         Due.is("run " + run + ": " + call, got, want);
     }
 
@@ -76,6 +83,14 @@ public final class ModelTest {
         add(4, 2, 3);
         add(15, random.nextInt(4), 0);
         add(4, 4, 3);
+    }
+
+    /** Doubles the latest reader often enough that what is put together of it may be SPENT. */
+    private void pileUp() {
+        for (int i = 7 + random.nextInt(4); i > 0; i--) {
+            int latest = model.count(1) - 1;
+            add(4, latest, latest);
+        }
     }
 
     private void make() {
@@ -149,23 +164,32 @@ public final class ModelTest {
             say(call, yard.read(reader, place), answer);
         }
         ANSWERS[answer > place ? 0 : answer <= -11 ? -10 - answer : 19]++;
-        state(call);
+        int questions = random.nextInt(8) == 0 ? MANY_QUESTIONS : FEW_QUESTIONS;
+        for (int i = 0; i < questions && calls < CALLS; i++) {
+            ask(call);
+        }
     }
 
-    private void state(String call) {
-        for (int what = -1; what <= 9; what++) {
-            say(call + " count(" + what + ")", yard.count(what), model.count(what));
-        }
-        for (int i = -1; i <= model.count(2); i++) {
-            say(call + " pile(" + i + ")", yard.pile(i), model.pile(i));
-        }
-        for (int i = -1; i <= model.count(3); i++) {
-            for (int what = -1; what <= 3; what++) {
+    /** One question of the state behind the call, now and then just outside what there is. */
+    private void ask(String call) {
+        int what = random.nextInt(11) - 1;
+        int i = random.nextInt(model.count(2) + 2) - 1;
+        switch (random.nextInt(4)) {
+            case 0:
+                say(call + " count(" + what + ")", yard.count(what), model.count(what));
+                break;
+            case 1:
+                say(call + " pile(" + i + ")", yard.pile(i), model.pile(i));
+                break;
+            case 2:
+                i = random.nextInt(model.count(3) + 2) - 1;
+                what = random.nextInt(16) == 0 ? number(5) - 1 : random.nextInt(3);
                 say(call + " mark(" + i + ", " + what + ")", yard.mark(i, what), model.mark(i, what));
-            }
-        }
-        for (int reader = -1; reader <= model.count(1); reader++) {
-            say(call + " began(" + reader + ")", yard.began(reader), model.began(reader));
+                break;
+            default:
+                i = random.nextInt(model.count(1) + 2) - 1;
+                say(call + " began(" + i + ")", yard.began(i), model.began(i));
+                break;
         }
     }
 }
